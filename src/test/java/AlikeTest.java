@@ -4,6 +4,7 @@ public final class AlikeTest {
 
     public static void main(String[] args) {
         plainOnes();
+        whatWasThereBeforeClear();
         sharingIsLookedAt();
         sharingTheOtherWayRound();
         ringsOfDifferentLengths();
@@ -37,6 +38,7 @@ public final class AlikeTest {
         both(pages, "empty TEXT and ARRAY of none", empty, arrayOfNone, false);
         both(pages, "equal TEXTs", ab, otherAb, true);
         both(pages, "TEXTs with another last character", ab, ac, false);
+        both(pages, "TEXTs with another first character", ab, Checks.makeText(pages, "bb"), false);
         both(pages, "TEXTs of other lengths", ab, abc, false);
         pages.put(pair, 1, 0);
         both(pages, "the int 0 and NOTHING", pair, otherPair, false);
@@ -51,6 +53,23 @@ public final class AlikeTest {
         both(pages, "references to equal TEXTs", pair, otherPair, true);
         pages.link(pair, 1, ac);
         both(pages, "references to other TEXTs", pair, otherPair, false);
+    }
+
+    private static void whatWasThereBeforeClear() {
+        GraphPages pages = new GraphPages();
+        Checks.makeText(pages, "abcdef");
+        Checks.makeText(pages, "uvwxyz");
+        for (int x = 2; x < 4; x++) {
+            pages.make(1, 4);
+            pages.put(x, 3, x);
+        }
+        pages.clear();
+        Checks.makeText(pages, "a");
+        Checks.makeText(pages, "a");
+        pages.make(1, 3);
+        pages.make(1, 3);
+        both(pages, "TEXTs in the place of longer ones", 0, 1, true);
+        both(pages, "ARRAYs in the place of longer ones", 2, 3, true);
     }
 
     private static void sharingIsLookedAt() {

@@ -21,7 +21,9 @@ public final class ContentTest {
     }
 
     private static void readPage(String page, int want) {
-        checks.due(page, Checks.withPage(page).decode(), want);
+        GraphPages pages = Checks.withPage(page);
+        checks.due(page, pages.decode(), want);
+        checks.due("there are objects after " + page, pages.objects() > 0, want >= 0);
     }
 
     private static void bad(String inBody) {
@@ -260,6 +262,8 @@ public final class ContentTest {
         bad("<p><r h=\"1\" n=\"2\"/><t id=\"1\"/></p>");
         bad("<r/><t id=\"1\"/>");
         bad("<r h=\"2\"/><t id=\"1\"/>");
+        bad("<n/><t id=\"1\"/>");
+        bad("<i>1</i><t id=\"1\"/>");
     }
 
     private static void ids() {

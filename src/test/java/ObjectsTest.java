@@ -193,8 +193,13 @@ public final class ObjectsTest {
         checks.due("understand(4, true)", pages.understand(4, true), false);
         checks.due("make after clear", pages.make(1, 2), 0);
         checks.due("nothing is left in the slots", Checks.show(pages, 0), "A[- -]");
+        checks.due("value of slot 0", pages.value(0, 0), 0);
+        checks.due("value of slot 1", pages.value(0, 1), 0);
         checks.due("make after clear", pages.make(2, 0), 1);
         checks.due("nothing is left of the text", Checks.show(pages, 1), "T()");
+        checks.due("value of character 0", pages.value(1, 0), 0);
+        checks.due("type after clear", pages.type(1, 'z'), true);
+        checks.due("value of character 1", pages.value(1, 1), 0);
         pages.clear();
         checks.due("decode after clear", pages.decode(), 0);
         checks.due("graph", Checks.graph(pages), "T(abcdef)");
