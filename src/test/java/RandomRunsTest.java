@@ -3,7 +3,6 @@ import java.util.Random;
 /** All promises: runs of calls drawn from fixed seeds, each answer compared with that of Model. */
 public final class RandomRunsTest {
     private static final int RUNS = 6000;
-    private static final int MOST_CALLS = 512;
     private static final String[] NAMES = {"p", "a", "t", "n", "i", "r", "b", "h", "x"};
     private static final String[] NUMBERS = {"0", "7", "-12", "007", "-0", "2147483647", "-2147483648",
         "2147483648", "-2147483649", "00000000001", "", "-", "1 ", "&#49;"};
@@ -14,7 +13,7 @@ public final class RandomRunsTest {
 
     private final Random random;
     private final String run;
-    private final GraphPages pages = new GraphPages();
+    private final Pages pages = new Pages();
     private final Model model = new Model();
     private int calls = 0;
 
@@ -24,6 +23,7 @@ public final class RandomRunsTest {
     }
 
     public static void main(String[] args) {
+        checks.sentence("any call in any state");
         int roots = 0;
         int[] faults = new int[5];
         for (int seed = 0; seed < RUNS; seed++) {
@@ -71,9 +71,9 @@ public final class RandomRunsTest {
     private int readSomePages() {
         understandSome();
         int answer = GraphPages.FORM;
-        while (calls < 200) {
+        while (pages.callsLeft() > 250) {
             String page = drawPage();
-            if (page.length() + calls > MOST_CALLS - 120) {
+            if (page.length() > pages.callsLeft() - 120) {
                 break;
             }
             due("cut(0)", pages.cut(0), model.cut(0));
@@ -192,7 +192,7 @@ public final class RandomRunsTest {
         for (int n = 0; n < objects; n++) {
             make(draw(3), draw(5));
         }
-        while (calls < MOST_CALLS - 110) {
+        while (pages.callsLeft() > 150) {
             switch (draw(8)) {
                 case 0: make(draw(5) - 1, draw(7) - 1); break;
                 case 1: fillText(); break;
@@ -261,7 +261,7 @@ public final class RandomRunsTest {
         int x = drawObject();
         int want = model.encode(x);
         due("encode(" + x + ")", pages.encode(x), want);
-        checks.due(run + "page", Checks.pageOf(pages), pageOfModel());
+        comparePages();
         if (rarely(3)) {
             return before;
         }
@@ -280,22 +280,23 @@ public final class RandomRunsTest {
         return root;
     }
 
-    private String pageOfModel() {
-        StringBuilder row = new StringBuilder();
-        for (int p = 0; p < model.length(); p++) {
-            row.append((char) model.charAt(p));
+    /** Looks at some twenty places, for a page told whole would take most of the calls of a run. */
+    private void comparePages() {
+        due("length()", pages.length(), model.length());
+        int step = 1 + model.length() / 20;
+        for (int p = draw(step); p < model.length(); p += step) {
+            due("charAt(" + p + ")", pages.charAt(p), model.charAt(p));
         }
-        return row.toString();
     }
 
     private void compareGraphs() {
         due("objects()", pages.objects(), model.objects());
-        for (int x = 0; x < model.objects(); x++) {
-            checks.due(run + "kind(" + x + ")", pages.kind(x), model.kind(x));
-            checks.due(run + "size(" + x + ")", pages.size(x), model.size(x));
-            for (int k = 0; k < 7; k++) {
-                checks.due(run + "holds(" + x + ", " + k + ")", pages.holds(x, k), model.holds(x, k));
-                checks.due(run + "value(" + x + ", " + k + ")", pages.value(x, k), model.value(x, k));
+        for (int x = model.objects() - 1; x >= 0 && pages.callsLeft() >= 20; x--) {
+            due("kind(" + x + ")", pages.kind(x), model.kind(x));
+            due("size(" + x + ")", pages.size(x), model.size(x));
+            for (int k = 0; k <= model.size(x); k++) {
+                due("holds(" + x + ", " + k + ")", pages.holds(x, k), model.holds(x, k));
+                due("value(" + x + ", " + k + ")", pages.value(x, k), model.value(x, k));
             }
         }
     }
