@@ -22,6 +22,8 @@ public final class GraphTest {
         readingTwice();
         thePageStays();
         writtenIsRead();
+        earlierPagesAreForgotten();
+        readingAgainAndAgain();
         checks.end();
     }
 
@@ -276,5 +278,52 @@ public final class GraphTest {
             checks.due("shared", pages.shared(root), pages.shared(x));
         }
         checks.due("objects()", pages.objects(), 10);
+    }
+
+    /** Pages of which each leaves something to stumble over: open elements, headers, ids, taken slots. */
+    private static final String[] PAGES = {
+        "<e v=\"1\"><b><t/></b></e>",
+        "<e v=\"1\"           ><b><t>1</t></b></e>",
+        "<e v=\"1\"><b><t/></b><h m=\"1\"/></e>",
+        "<a>".repeat(20),
+        "<a>".repeat(20) + "</a>".repeat(20),
+        "<e v=\"1\"><h><x a=\"1\" b=\"2\" c=\"3\" d=\"4\" e=\"5\" f=\"6\"/></h><b><p><n/><n/></p></b></e>",
+        "<e v=\"1\"><b><a n=\"4\"><i>1</i><i>2</i><i>3</i><i>4</i></a></b></e>",
+        "<e v=\"1\"><b><a n=\"4\" o=\"2\"><i>-1</i><n/></a></b></e>",
+        "<e v=\"1\"><b><a n=\"1\"><i>1</i><i>2</i></a></b></e>",
+        "<e v=\"1\"><b><r h=\"1\"/><a id=\"1\" n=\"2\"><i at=\"1\">5</i><r at=\"0\" h=\"2\"/></a><t id=\"2\">ab</t></b></e>",
+        "<e v=\"1\"><b><p><r h=\"2\"/><t id=\"1\"/></p></b></e>",
+        "<e v=\"1\"><b><p><t>abcdef</t><i>-</i></p></b></e>",
+        "<e v=\"1\"><b><p><i></i><n/></p></b></e>",
+        "<e v=\"2\"><b><t/></b></e>"};
+    private static final int[] ROOTS = {0, 0, GraphPages.MUST, GraphPages.FORM, GraphPages.VERSION, 0, 0, 0,
+        GraphPages.CONTENT, 0, GraphPages.CONTENT, GraphPages.CONTENT, GraphPages.CONTENT, GraphPages.VERSION};
+    private static final String[] GRAPHS = {"T()", "T(1)", "", "", "", "P[- -]", "A[1 2 3 4]", "A[- - -1 -]",
+        "", "A[@1 5] T(ab)", "", "", "", ""};
+
+    private static void earlierPagesAreForgotten() {
+        checks.sentence("READING a page gives the first FAULT of this list that holds, else a graph");
+        for (String earlier : PAGES) {
+            for (int i = 0; i < PAGES.length; i++) {
+                Pages pages = Pages.withPage(earlier);
+                pages.decode();
+                pages.clear();
+                pages.replacePage(PAGES[i]);
+                checks.due(PAGES[i] + " after " + earlier, pages.decode(), ROOTS[i]);
+                checks.due("graph", pages.graph(), GRAPHS[i]);
+            }
+        }
+    }
+
+    /** To the last call that is promised: what a reading needs inside must not run out. */
+    private static void readingAgainAndAgain() {
+        checks.sentence("An object is used for at most 512 calls after it has been made");
+        for (int i = 0; i < PAGES.length; i++) {
+            Pages pages = Pages.withPage(PAGES[i]);
+            while (pages.callsLeft() > 1) {
+                pages.clear();
+                checks.due("decode() again of " + PAGES[i], pages.decode(), ROOTS[i]);
+            }
+        }
     }
 }

@@ -31,6 +31,7 @@ public final class ObjectsTest {
         holdsSlotsOnly();
         value();
         valueOfNone();
+        valuesOfNeighbours();
         clear();
         clearKeepsPageAndKeys();
         clearLeavesNothing();
@@ -464,6 +465,29 @@ public final class ObjectsTest {
         Pages pages = Pages.after(p -> p.makeText("ab"));
         checks.due("the last character", pages.value(0, 1), 'b');
         checks.due("one beyond the last character", pages.value(0, 2), 0);
+    }
+
+    /** What is beyond an object is not the end or the start of the one beside it. */
+    private static void valuesOfNeighbours() {
+        checks.sentence("0 when there is no such slot or character");
+        Pages pages = new Pages();
+        for (int x = 0; x < 3; x++) {
+            pages.makeText("abcdef");
+        }
+        for (int x = 3; x < 6; x++) {
+            pages.makeArray(4);
+            for (int k = 0; k < 4; k++) {
+                pages.put(x, k, 7);
+            }
+        }
+        for (int x = 0; x < 6; x++) {
+            for (int k = -8; k < 0; k++) {
+                checks.due("value(" + x + ", " + k + ")", pages.value(x, k), 0);
+            }
+            for (int k = x < 3 ? 6 : 4; k < 14; k++) {
+                checks.due("value(" + x + ", " + k + ")", pages.value(x, k), 0);
+            }
+        }
     }
 
     // Promise 15
